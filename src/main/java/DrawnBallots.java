@@ -608,7 +608,11 @@ public final class DrawnBallots {
     private static long repeated(long risk, long times, long by, int n) {
         long then = risk;
         for (int k = 0; k < n; k++) {
-            then = scaled(then, times, by);
+            long before = then;
+            then = scaled(before, times, by);
+            if (then == before) {
+                break;
+            }
         }
         return then;
     }

@@ -43,6 +43,7 @@ public final class PromisesTest {
         undo();
         undoOnlyTwelve();
         need();
+        needAtItsEdges();
         bestFactor();
         more();
         tries();
@@ -309,6 +310,8 @@ public final class PromisesTest {
         }
         due("all have one", () -> x.chance(0, 1), 0);
         due("all have one", () -> x.enough(0), 1);
+        DrawnBallots half = Feeder.made("race 2 compare;ballots 2 0;limit 500;paper 1 0 1;");
+        due("the limit itself is enough", () -> half.enough(0), 1);
         DrawnBallots less = Feeder.made("race 2 compare;ballots 3 0;ballots 1 1;paper 3 0 0;");
         due("one below 0 is none above 0", () -> less.enough(0), -1);
         DrawnBallots empty = Feeder.made("race 2 poll;");
@@ -637,6 +640,26 @@ public final class PromisesTest {
         // 1 - 50 / (199 * 300) a draw: it would take more than 8000.
         due("more than 5000, none", () -> slow.need(0, 0, 0), -1);
         due("0.5 is reached", () -> { slow.rule(0, 500); return slow.need(0, 0, 0); }, 828);
+    }
+
+    private static void needAtItsEdges() {
+        DrawnBallots x = Feeder.made("race 2 compare;ballots 5 0;factor 125;limit 360;");
+        due("0.6 * 0.6 is the limit itself", () -> x.need(0, 0, 0), 2);
+        due("and is done", () -> { x.draw(9); return x.race(0, 6); }, 2);
+        String close = "race 2 compare;ballots 85 0;ballots 84 1;ballots 1 blank;limit 1;factor 213;";
+        DrawnBallots most = Feeder.made(close);
+        due("5000 draws", () -> most.need(0, 0, 0), 5000);
+        due("5000 draws more", () -> most.more(0), 5000);
+        due("one more with a 1", () -> most.need(0, 1, 0), -1);
+        due("too many by a factor more", () -> { most.rule(1, 214); return most.need(0, 0, 0); }, -1);
+        due("too many more", () -> most.more(0), -1);
+        DrawnBallots above = Feeder.made("race 2 compare;ballots 91 0;ballots 90 1;ballots 1 off;limit 1;factor 199;");
+        due("5001 are too many", () -> above.need(0, 0, 0), -1);
+        due("5001 more are too many", () -> above.more(0), -1);
+        due("by another factor", () -> { above.rule(1, 198); return above.need(0, 0, 0); }, 4976);
+        // 2683 / 2783 of 10 to the 9 leaves 1: also that is rounded up.
+        DrawnBallots rounded = Feeder.made("race 2 compare;ballots 6 0;ballots 4 1;ballots 1 blank;factor 253;");
+        due("rounded up by the least", () -> rounded.next(0, 0), 964067554);
     }
 
     private static void bestFactor() {

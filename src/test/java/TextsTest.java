@@ -68,6 +68,10 @@ public final class TextsTest {
         wrong("race 2 @2;", 1);
         wrong("race 2 @polls;", 1);
         wrong("race 2 @pol;", 1);
+        wrong("race 2 @pollz;", 1);
+        wrong("race 2 @apoll;", 1);
+        wrong("race 2 @moll;", 1);
+        wrong("@pace 2 poll;", 1);
         wrong("race 2 poll@", 1);
         wrong("race 2 poll  @", 1);
         wrong("race 2 poll @race 2 poll;", 1);
@@ -165,6 +169,7 @@ public final class TextsTest {
         asked("many record @blank=1", 1);
         asked("many record @2=1", 2);
         asked("many 1=paper @2", 2);
+        asked("many mistake @2=2", 2);
         asked("many mistake @99999999999=2", 2);
         asked("many @10000=1", 2);
         asked("many 1=@10000", 2);
