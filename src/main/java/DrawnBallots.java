@@ -54,8 +54,6 @@ public final class DrawnBallots {
 
     private boolean isKept = false;
     private final Election kept = new Election();
-    private int keptFaultPlace = NONE;
-    private final Speech keptSpeech = new Speech();
 
     public DrawnBallots() {
     }
@@ -174,10 +172,10 @@ public final class DrawnBallots {
     public long riskOf(int race, int candidate) throws NoSuchElementException {
         Contest contest = contestOf(race);
         seekCandidate(contest, candidate);
-        if (contest.method == COMPARE) {
-            return audit.latestRisk(race);
+        if (candidate == contest.winner) {
+            return 0;
         }
-        return candidate == contest.winner ? 0 : audit.own[race][candidate];
+        return contest.method == COMPARE ? audit.latestRisk(race) : audit.own[race][candidate];
     }
 
     public int worst(int race) throws NoSuchElementException {
@@ -576,11 +574,10 @@ public final class DrawnBallots {
         return question.answer(now, audit);
     }
 
+    // The latest FAULT and what was SAID tell of the latest such calls, so no image() keeps them.
     public void image() {
         isKept = true;
         kept.copy(now);
-        keptFaultPlace = faultPlace;
-        keptSpeech.copy(speech);
     }
 
     public boolean back() {
@@ -588,8 +585,6 @@ public final class DrawnBallots {
             return false;
         }
         now.copy(kept);
-        faultPlace = keptFaultPlace;
-        speech.copy(keptSpeech);
         acts.forget();
         replay();
         return true;
@@ -1012,11 +1007,6 @@ public final class DrawnBallots {
             for (long p = power; p > 0; p /= 10) {
                 put('0' + (int) (number / p % 10));
             }
-        }
-
-        void copy(Speech other) {
-            System.arraycopy(other.bytes, 0, bytes, 0, bytes.length);
-            length = other.length;
         }
     }
 

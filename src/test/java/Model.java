@@ -225,8 +225,6 @@ final class Model {
     private String said = "";
     private final Deque<State> acts = new ArrayDeque<>();
     private State kept = null;
-    private int keptFault;
-    private String keptSaid;
     private Audit known = null;
 
     private Audit audit() {
@@ -348,10 +346,10 @@ final class Model {
     long riskOf(int race, int candidate) {
         seekRace(race);
         seekCandidate(race, candidate);
-        if (s.ways[race] == 0) {
-            return risk(race);
+        if (candidate == s.winner(race, false)) {
+            return 0;
         }
-        return candidate == s.winner(race, false) ? 0 : audit().races.get(race).own[candidate].longValueExact();
+        return s.ways[race] == 0 ? risk(race) : audit().races.get(race).own[candidate].longValueExact();
     }
 
     int worst(int race) {
@@ -654,8 +652,6 @@ final class Model {
 
     void image() {
         kept = s.copy();
-        keptFault = fault;
-        keptSaid = said;
     }
 
     boolean back() {
@@ -663,8 +659,6 @@ final class Model {
             return false;
         }
         s = kept.copy();
-        fault = keptFault;
-        said = keptSaid;
         acts.clear();
         known = null;
         return true;

@@ -222,6 +222,7 @@ public final class PromisesTest {
             long want = QUARTERS[k];
             due("risk behind " + k, () -> x.risk(0), want);
             due("risk of 1 behind " + k, () -> x.riskOf(0, 1), want);
+            due("risk of the winner behind " + k, () -> x.riskOf(0, 0), 0);
             x.draw(1);
         }
         noRace("risk", x, x::risk);
@@ -237,6 +238,27 @@ public final class PromisesTest {
         y.draw(1);
         due("done", () -> y.risk(0), 297520662);
         due("done", () -> y.risk(1), 404958679);
+        riskOfWinners();
+    }
+
+    /** Of the WINNER it is 0 by either WAY, whoever it is, drawn or not, with BALLOTS or without. */
+    private static void riskOfWinners() {
+        DrawnBallots x = Feeder.made("race 3 compare;race 3 poll;ballots 6 1 2;ballots 4 0 off;limit 200;");
+        for (int k = 0; k < 3; k++) {
+            due("the winner 1 by compare", () -> x.riskOf(0, 1), 0);
+            due("0 by compare", () -> x.riskOf(0, 0), x.risk(0));
+            due("2 by compare", () -> x.riskOf(0, 2), x.risk(0));
+            due("the winner 2 by poll", () -> x.riskOf(1, 2), 0);
+            x.draw(2);
+        }
+        x.way(0, 1);
+        due("the winner by poll now", () -> x.riskOf(0, 1), 0);
+        x.way(1, 0);
+        due("the winner by compare now", () -> x.riskOf(1, 2), 0);
+        due("another one by compare now", () -> x.riskOf(1, 0), x.risk(1));
+        DrawnBallots none = Feeder.made("race 2 compare;");
+        due("the winner without ballots", () -> none.riskOf(0, 0), 0);
+        due("the other one without ballots", () -> none.riskOf(0, 1), 1000000000);
     }
 
     private static void ownRisks() {
@@ -838,8 +860,8 @@ public final class PromisesTest {
         due("back: risk", () -> x.risk(0), QUARTERS[3]);
         due("back: drawn", () -> x.drawn(2), 8);
         due("back: no acts", x::undo, -1);
-        due("back: fault", x::fault, 7);
-        due("back: said", () -> x.said(0), 'c');
+        due("behind back: fault of the latest election", x::fault, -1);
+        due("behind back: the latest said", () -> x.said(0), 'p');
         x.draw(1);
         due("the image stays", () -> x.back() ? 1 : 0, 1);
         due("the image stays", () -> x.count(5), 3);
@@ -853,6 +875,37 @@ public final class PromisesTest {
         x.back();
         x.rule(0, 100);
         due("draws that don't count are kept, too", () -> x.count(5), 4);
+        whatNoImageKeeps();
+    }
+
+    /** fault() and said() tell of the latest calls, whatever back() brings back. */
+    private static void whatNoImageKeeps() {
+        DrawnBallots x = Feeder.made(EIGHT_TWO);
+        Feeder.ask(x, "many 1=");
+        due("said ahead of image", x::say, 8);
+        x.image();
+        x.draw(1);
+        Feeder.ask(x, "many");
+        CHECK.due("said behind image", Feeder.said(x), "ca:750?");
+        x.back();
+        due("fault of ask behind image", x::fault, 4);
+        due("said behind image stays", () -> x.said(3), '7');
+        due("its length, too", () -> x.said(7), -1);
+        Feeder.ask(x, "many 1=1");
+        x.back();
+        due("an ask without a fault behind image", x::fault, -1);
+        x.image();
+        Feeder.election(x, "race 2 pall;");
+        illegal("an illegal ask behind a fault", () -> x.ask(1));
+        x.back();
+        due("fault of election behind image", x::fault, 7);
+        DrawnBallots fresh = new DrawnBallots();
+        fresh.image();
+        Feeder.election(fresh, "race 2 poll;");
+        fresh.say();
+        fresh.back();
+        due("no races again", () -> fresh.count(0), 0);
+        due("said of the race that was", () -> fresh.said(0), 'p');
     }
 
     private static void edgesOfRisk() {
