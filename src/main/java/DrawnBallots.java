@@ -153,13 +153,13 @@ public final class DrawnBallots {
     }
 
     private void seekCandidate(Contest contest, int candidate) throws NoSuchElementException {
-        if (candidate < 0 || candidate >= contest.candidates) {
+        if (candidate < 0 || candidate >= contest.candidates || candidate >= MOST_CANDIDATES) {
             throw new NoSuchElementException("no such candidate");
         }
     }
 
     private void seekBallot(int ballot) throws NoSuchElementException {
-        if (ballot < 0 || ballot >= now.ballots) {
+        if (ballot < 0 || ballot >= now.ballots || ballot >= MOST_BALLOTS) {
             throw new NoSuchElementException("no such ballot");
         }
     }
@@ -182,7 +182,7 @@ public final class DrawnBallots {
         contestOf(race);
         int found = NONE;
         long greatest = 0;
-        for (int ballot = 0; ballot < now.ballots; ballot++) {
+        for (int ballot = 0; ballot < now.ballots && ballot < MOST_BALLOTS; ballot++) {
             long then = audit.riskWith(now, race, ballot);
             if (then > greatest) {
                 greatest = then;
@@ -236,7 +236,7 @@ public final class DrawnBallots {
         }
         int fewest = NONE;
         int found = NONE;
-        for (int k = 0; k < contest.candidates; k++) {
+        for (int k = 0; k < contest.candidates && k < MOST_CANDIDATES; k++) {
             if (k == contest.rightOne) {
                 continue;
             }
@@ -251,7 +251,7 @@ public final class DrawnBallots {
 
     public int say() {
         speech.fallSilent();
-        for (int race = 0; race < now.races; race++) {
+        for (int race = 0; race < now.races && race < MOST_RACES; race++) {
             if (race > 0) {
                 speech.put(',');
             }
@@ -300,7 +300,7 @@ public final class DrawnBallots {
     }
 
     public int drawn(int k) throws NoSuchElementException {
-        if (k < 0 || k >= audit.counted) {
+        if (k < 0 || k >= audit.counted || k >= MOST_DRAWS) {
             throw new NoSuchElementException("no such draw");
         }
         return audit.drew[k];
@@ -317,8 +317,9 @@ public final class DrawnBallots {
             throw new NoSuchElementException("no such mistake");
         }
         int found = 0;
-        for (int k = 0; k < audit.counted; k++) {
-            if (contest.slips[audit.drew[k]] == mistake) {
+        for (int k = 0; k < audit.counted && k < MOST_DRAWS; k++) {
+            int ballot = audit.drew[k];
+            if (ballot >= 0 && ballot < MOST_BALLOTS && contest.slips[ballot] == mistake) {
                 found++;
             }
         }
@@ -327,7 +328,7 @@ public final class DrawnBallots {
 
     public long riskAt(int race, int k) throws NoSuchElementException {
         contestOf(race);
-        if (k < 0 || k > audit.counted) {
+        if (k < 0 || k > audit.counted || k > MOST_DRAWS) {
             throw new NoSuchElementException("not so many draws");
         }
         return audit.risks[race][k];
@@ -467,7 +468,7 @@ public final class DrawnBallots {
         int rival = contest.leading(contest.tallies, contest.winner);
         int cleanRoom = room - ones - twos;
         int most = 0;
-        for (int k = 0; k < contest.candidates && most != NONE; k++) {
+        for (int k = 0; k < contest.candidates && k < MOST_CANDIDATES && most != NONE; k++) {
             if (k == contest.winner) {
                 continue;
             }
@@ -512,7 +513,7 @@ public final class DrawnBallots {
             return cleanDraws(contest, 0, factor, audit.latestRisk(race), MOST_RECKONED);
         }
         int most = 0;
-        for (int k = 0; k < contest.candidates && most != NONE; k++) {
+        for (int k = 0; k < contest.candidates && k < MOST_CANDIDATES && most != NONE; k++) {
             if (k != contest.winner) {
                 int clean = cleanDraws(contest, k, factor, audit.own[race][k], MOST_RECKONED);
                 most = clean == NONE ? NONE : Math.max(most, clean);
@@ -875,7 +876,7 @@ public final class DrawnBallots {
         }
 
         private void drawOne(Election of) {
-            if (of.ballots <= 0 || counted >= MOST_DRAWS) {
+            if (of.ballots <= 0 || of.ballots > MOST_BALLOTS || counted >= MOST_DRAWS) {
                 return;
             }
             x = x * 1103515245 + 12345;
@@ -885,7 +886,7 @@ public final class DrawnBallots {
             }
             often[ballot]++;
             drew[counted] = ballot;
-            for (int race = 0; race < of.races; race++) {
+            for (int race = 0; race < of.races && race < MOST_RACES; race++) {
                 // What stays to be known is written behind the draw that is only counted below.
                 risks[race][counted + 1] = isDone(race) ? latestRisk(race) : stepped(of, race, ballot, true);
             }
@@ -894,7 +895,7 @@ public final class DrawnBallots {
         }
 
         private void closeRaces(Election of) {
-            for (int race = 0; race < of.races; race++) {
+            for (int race = 0; race < of.races && race < MOST_RACES; race++) {
                 if (!isDone(race) && latestRisk(race) <= of.goal()) {
                     doneBehind[race] = counted;
                     pending--;
@@ -916,7 +917,7 @@ public final class DrawnBallots {
                 return scaled(latestRisk(race), times, by);
             }
             long greatest = 1;
-            for (int k = 0; k < contest.candidates; k++) {
+            for (int k = 0; k < contest.candidates && k < MOST_CANDIDATES; k++) {
                 if (k != contest.winner) {
                     long then = contest.polled(own[race][k], k, contest.shown[ballot]);
                     if (keep) {

@@ -118,7 +118,8 @@ final class Edges {
     }
 
     private void beside(String call, int least, int greatest, AskedAt got, String exception) {
-        for (int at : new int[] {least - 1, greatest + 1, FAR[0], FAR[1]}) {
+        // Also the next but one: a test for the next alone would let that one through.
+        for (int at : new int[] {least - 1, least - 2, greatest + 1, greatest + 2, FAR[0], FAR[1]}) {
             refused(call + " at " + at, x -> got.of(x, at), exception);
         }
         for (int at : new int[] {least, greatest}) {
@@ -141,6 +142,7 @@ final class Edges {
         }
         DrawnBallots one = Feeder.made("race 2 compare;ballots 3 0;");
         none(call + " of race 1 where there is one", () -> got.of(one, 1));
+        none(call + " of race 2 where there is one", () -> got.of(one, 2));
         DrawnBallots three = Feeder.made("race 2 compare;race 2 poll;race 2 poll;ballots 3 0 0 0;");
         none(call + " of race 3 where there are three", () -> got.of(three, 3));
         none(call + " of race -1 where there are three", () -> got.of(three, -1));

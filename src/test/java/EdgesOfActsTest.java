@@ -52,6 +52,37 @@ public final class EdgesOfActsTest {
                 E.due("MOST stays with none left of " + many, x.count(4), many == 13 ? 1 : many == 14 ? 2 : 100);
             }
         });
+        E.edge(0, "ACTS: draws of one call, a PAPER", () -> {
+            // Of more than twelve the first ones go, of whatever sort they and the others are.
+            DrawnBallots x = Feeder.made("race 2 compare;race 2 poll;race 3 compare;ballots 8 0 0 0;ballots 2 1 1 2;limit 1;seed 7;");
+            x.paper(1, 1, 1);
+            x.rule(1, 250);
+            x.draw(2);
+            x.paper(2, 2, 1);
+            x.way(2, 1);
+            x.rule(2, 77);
+            x.paper(3, 0, -2);
+            x.draw(1);
+            x.way(0, 1);
+            x.way(1, 0);
+            x.rule(0, 3);
+            x.rule(1, 111);
+            x.paper(9, 2, 0);
+            x.draw(3);
+            // Each pair: as it is, and as it is when that one is UNDONE.
+            long[] due = {6, 3, 0, 2, 111, 250, 3, 1, 0, 1, 1, 0, 3, 2, -2, 0, 77, 100, 1, 0, 1, 0, 2, 0};
+            Edges.Call[] seen = {() -> x.count(5), () -> x.ballot(9, 2, 1), () -> x.count(3), () -> x.count(2),
+                () -> x.race(1, 1), () -> x.race(0, 1), () -> x.count(5), () -> x.ballot(3, 0, 1), () -> x.count(4),
+                () -> x.race(2, 1), () -> x.ballot(2, 2, 1), () -> x.count(5)};
+            for (int k = 0; k < 12; k++) {
+                E.due("ahead of undo " + k, seen[k], due[2 * k]);
+                E.due("undo " + k, x.undo(), 11 - k);
+                E.due("behind undo " + k, seen[k], due[2 * k + 1]);
+            }
+            E.due("no more", x::undo, -1);
+            E.due("the FACTOR of the second one stays", () -> x.count(3), 250);
+            E.due("the PAPER of the first one, too", () -> x.ballot(1, 1, 1), 1);
+        });
         E.edge(26, "(draws, too): how many still can be", () -> {
             DrawnBallots x = Feeder.made(EIGHT_TWO);
             for (int k = 1; k <= 8; k++) {
@@ -71,6 +102,7 @@ public final class EdgesOfActsTest {
                 E.due("undo others", x.undo(), left);
             }
             E.due("the PAPER", () -> x.ballot(9, 0, 1), 1);
+            E.due("another PAPER", () -> x.ballot(0, 0, 1), 0);
             for (int left = 6; left >= 0; left--) {
                 E.due("undo a draw", x.undo(), left);
                 E.due("draws", x.count(5), left + 1);
@@ -258,12 +290,14 @@ public final class EdgesOfActsTest {
             x.paper(4, 0, 1);
             x.paper(9, 1, -2);
             x.way(1, 0);
+            x.way(0, 1);
             x.rule(0, 70);
             x.rule(1, 150);
             x.rule(2, 5);
-            E.due("MOST", () -> x.undo() * 1000 + x.count(4), 7100);
-            E.due("FACTOR", () -> x.undo() * 1000 + x.count(3), 6120);
-            E.due("LIMIT", () -> x.undo() * 1000 + x.count(2), 5100);
+            E.due("MOST", () -> x.undo() * 1000 + x.count(4), 8100);
+            E.due("FACTOR", () -> x.undo() * 1000 + x.count(3), 7120);
+            E.due("LIMIT", () -> x.undo() * 1000 + x.count(2), 6100);
+            E.due("WAY of the first RACE", () -> x.undo() * 1000 + x.race(0, 1), 5000);
             E.due("WAY", () -> x.undo() * 1000 + x.race(1, 1), 4001);
             E.due("the PAPER of the last one", () -> x.undo() * 1000 + x.ballot(9, 1, 1), 3001);
             E.due("the other PAPER is left", () -> x.ballot(4, 0, 1), 1);
@@ -324,7 +358,9 @@ public final class EdgesOfActsTest {
             x.rule(0, 1);
             x.rule(1, 299);
             x.rule(2, 299);
-            Feeder.election(x, "race 4 poll;race 4 poll;race 4 poll;ballots 99 3 3 3;ballots 99 3 3 3;ballots 2 1 1 1;seed 5;");
+            x.ask(0);
+            String other = "race 4 poll;race 4 poll;race 4 poll;ballots 99 3 3 3;ballots 99 3 3 3;ballots 2 1 1 1;seed 5;";
+            E.due("another election", Feeder.election(x, other), 200);
             x.draw(1);
             E.due("back", () -> Edges.number(x.back()), 1);
             E.due("no ACTS", () -> x.count(10), 0);

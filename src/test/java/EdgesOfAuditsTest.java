@@ -92,6 +92,7 @@ public final class EdgesOfAuditsTest {
             E.due("none has any", margin("race 2 poll;ballots 9 blank;"), 0);
             E.due("without BALLOTS", margin("race 2 poll;"), 0);
             E.due("papers have no part", margin("race 2 poll;ballots 3 1;ballots 1 0;paper 0 0 0;paper 1 0 off;"), 2);
+            E.due("papers have no part", margin("race 3 poll;ballots 5 2;ballots 3 1;ballots 1 0;paper 5 0 0;paper 6 0 0;"), 2);
         });
     }
 
@@ -188,6 +189,9 @@ public final class EdgesOfAuditsTest {
             E.due("(3 + 1) / 6", () -> third.next(0, 0), 666666667);
             E.due("(3 + 1) / 2", () -> third.next(0, 3), 2 * WHOLE);
             E.due("it isn't on it", () -> third.next(0, 6), WHOLE);
+            DrawnBallots wrong = Feeder.made("race 2 poll;ballots 3 0;ballots 1 1;paper 0 0 1;paper 1 0 1;");
+            E.due("the WINNER, if it isn't the RIGHT one", () -> wrong.next(0, 2), 666666667);
+            E.due("the RIGHT one, if it isn't the WINNER", () -> wrong.next(0, 0), 2 * WHOLE);
             DrawnBallots none = Feeder.made("race 2 poll;ballots 3 blank;paper 0 0 0;paper 1 0 1;");
             E.due("the WINNER without VOTES", () -> none.next(0, 0), TOP);
             E.due("the other one without VOTES", () -> none.next(0, 1), TOP);
@@ -311,6 +315,32 @@ public final class EdgesOfAuditsTest {
     }
 
     private static void drawsThatCount() {
+        E.edge(0, "What THE AUDIT knows is made anew by all draws so far, whenever a PAPER, a WAY, LIMIT, FACTOR changes", () -> {
+            DrawnBallots x = Feeder.made(EIGHT_TWO);
+            x.draw(4);
+            x.paper(4, 0, -1);
+            // 4 6 8 4: 9/7 for the first and the last one, 3/4 for those between, each rounded up.
+            E.due("PAPER, behind 1", () -> x.riskAt(0, 1), 1285714286);
+            E.due("PAPER, behind 3", () -> x.riskAt(0, 3), 723214287);
+            E.due("PAPER, behind 4", () -> x.risk(0), 929846941);
+            E.due("PAPER, MISTAKES of 1", () -> x.mistakes(0, 1), 2);
+            x.paper(4, 0, 0);
+            E.due("PAPER as it was", () -> x.risk(0), 316406250);
+            x.way(0, 1);
+            // 5/8, 5/8, then 5/2 and 5/8.
+            E.due("WAY", () -> x.risk(0), 610351563);
+            x.way(0, 0);
+            E.due("WAY as it was", () -> x.risk(0), 316406250);
+            x.rule(0, 317);
+            E.due("LIMIT", () -> x.race(0, 6), 4);
+            x.rule(0, 316);
+            E.due("LIMIT of one less", () -> x.race(0, 6), -1);
+            x.rule(1, 300);
+            E.due("FACTOR, 0.9 to the 4", () -> x.risk(0), 656100000);
+            x.rule(1, 120);
+            E.due("FACTOR as it was", () -> x.risk(0), 316406250);
+            E.due("draws stay", () -> x.count(5), 4);
+        });
         E.edge(0, "(the draws stay; draws behind which it would have been OVER count no more;", () -> {
             DrawnBallots x = Feeder.made(EIGHT_TWO);
             x.draw(9);
@@ -435,6 +465,9 @@ public final class EdgesOfAuditsTest {
             x.draw(1);
             E.due("DONE", () -> x.race(0, 7), 0);
             E.due("though the RIGHT one is", () -> x.race(0, 3), 1);
+            DrawnBallots last = Feeder.made("race 4 poll;ballots 2 3;limit 500;");
+            last.draw(1);
+            E.due("DONE, and the last one is the WINNER", () -> last.race(0, 7), 3);
             DrawnBallots y = Feeder.made(wrong + "most 1;");
             y.draw(1);
             E.due("COUNTED BY HAND", () -> y.race(0, 7), 1);
@@ -459,6 +492,12 @@ public final class EdgesOfAuditsTest {
                 E.due("the others of two without VOTES", x.riskOf(1, 0), x.riskOf(1, 1));
                 x.draw(1);
             }
+            DrawnBallots z = Feeder.made("race 2 compare;race 2 poll;ballots 3 0 0;paper 0 0 1;paper 1 0 1;paper 0 1 1;paper 1 1 1;");
+            for (int race = 0; race < 2; race++) {
+                E.due("the RIGHT one is another one", z.race(race, 3), 1);
+                E.due("the WINNER, if it isn't the RIGHT one", z.riskOf(race, 0), 0);
+                E.due("the RIGHT one, if it isn't the WINNER", z.riskOf(race, 1), WHOLE);
+            }
             DrawnBallots y = Feeder.made(EMPTY);
             E.due("the WINNER by COMPARE without BALLOTS", () -> y.riskOf(0, 0), 0);
             E.due("the WINNER by POLL without BALLOTS", () -> y.riskOf(1, 0), 0);
@@ -471,6 +510,7 @@ public final class EdgesOfAuditsTest {
             E.due("the 4th of four", () -> x.riskOf(0, 3), WHOLE);
             E.none("a 5th of four", () -> x.riskOf(0, 4));
             E.none("a 3rd of two", () -> x.riskOf(1, 2));
+            E.none("a 4th of two", () -> x.riskOf(1, 3));
         });
     }
 
@@ -599,6 +639,7 @@ public final class EdgesOfAuditsTest {
             E.due("one by HAND", () -> x.votes(0, 0, true), 1);
             E.none("a 5th of four", () -> x.votes(0, 4, false));
             E.none("a 3rd of two", () -> x.votes(1, 2, true));
+            E.none("a 4th of two", () -> x.votes(1, 3, true));
             E.due("without BALLOTS", () -> Feeder.made(EMPTY).votes(1, 2, true), 0);
         });
         E.edge(16, "NoSuchElementException: no such BALLOT, RACE, another what.", () -> {

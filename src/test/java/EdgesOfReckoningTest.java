@@ -131,6 +131,10 @@ public final class EdgesOfReckoningTest {
             flipsAre("ballots 2 0;ballots 6 1;ballots 5 2;ballots 4 3;", 1, 2);
             DrawnBallots x = Feeder.made("race 2 poll;ballots 5 0;ballots 2 1;paper 0 0 1;paper 1 0 1;paper 2 0 1;");
             E.due("PAPERS count, not what is RECORDED", () -> x.flips(0, 0) * 10 + x.flips(0, 1), 20);
+            x.paper(3, 0, 1);
+            E.due("the RIGHT one, not the WINNER: 1 to 6", () -> x.flips(0, 0) * 10 + x.flips(0, 1), 30);
+            x.paper(3, 0, -1);
+            E.due("the RIGHT one, not the WINNER: 1 to 5", () -> x.flips(0, 0) * 10 + x.flips(0, 1), 20);
         });
         E.edge(12, "NoSuchElementException: no such RACE, another what.", () -> {
             E.noRace("flips(.., 0)", (x, race) -> x.flips(race, 0));
@@ -195,6 +199,8 @@ public final class EdgesOfReckoningTest {
             E.due("a 2, if it's the last one", () -> last.need(0, 0, 1), 9);
             DrawnBallots wins = Feeder.made("race 3 poll;ballots 1 0;ballots 3 1;ballots 6 2;limit 200;");
             E.due("a 2, if the last one is the WINNER", () -> wins.need(0, 0, 1), 9);
+            DrawnBallots third = Feeder.made("race 3 poll;ballots 6 0;ballots 3 1;limit 200;");
+            E.due("a 2, not for one without VOTES", () -> third.need(0, 0, 1), 9);
             // Without VOTES it becomes 10 to the 13; 1/65536 of it is 0.1526.
             DrawnBallots none = Feeder.made("race 2 poll;ballots 5 0;limit 200;");
             E.due("a 2 for one without VOTES", () -> none.need(0, 0, 1), 1 + 16);
@@ -205,9 +211,13 @@ public final class EdgesOfReckoningTest {
             E.due("one blank", () -> x.need(0, 1, 0), 7);
             E.due("99 blank", () -> x.need(0, 99, 0), 99 + 6);
             E.due("one of each", () -> x.need(0, 1, 1), 10);
-            // 7/12 for 0, 3/4 for 2: the slower one counts, whichever it is.
+            // 7/12 for the one, 3/4 for the other: the slower one counts, whichever it is.
             DrawnBallots y = Feeder.made("race 3 poll;ballots 1 0;ballots 6 1;ballots 3 2;limit 200;");
             E.due("the slower one behind the quicker", () -> y.need(0, 0, 0), 6);
+            DrawnBallots z = Feeder.made("race 3 poll;ballots 3 0;ballots 6 1;ballots 1 2;limit 200;");
+            E.due("the slower one is the first one", () -> z.need(0, 0, 0), 6);
+            DrawnBallots four = Feeder.made("race 4 poll;ballots 1 0;ballots 1 1;ballots 6 2;ballots 3 3;limit 200;");
+            E.due("the slower one is the last of four", () -> four.need(0, 0, 0), 6);
             DrawnBallots even = Feeder.made("race 3 poll;ballots 3 0;ballots 1 1;ballots 3 2;");
             E.due("one with as many VOTES", () -> even.need(0, 0, 0), -1);
             E.due("without VOTES", () -> Feeder.made("race 2 poll;ballots 9 blank;").need(0, 0, 0), -1);
@@ -219,6 +229,26 @@ public final class EdgesOfReckoningTest {
     }
 
     private static void need() {
+        E.edge(27, "NEED of a RACE", () -> {
+            for (String way : new String[] {"compare", "poll"}) {
+                for (int winner = 0; winner < 4; winner++) {
+                    String text = "race 4 " + way + ";ballots 8 " + winner + ";ballots 2 " + (winner == 0 ? 1 : 0) + ";limit 100;factor 120;";
+                    // By POLL 5/8 of it each: 0.0954 behind 5.
+                    E.due(text, Feeder.made(text).need(0, 0, 0), way.equals("poll") ? 5 : 9);
+                    E.due("more of " + text, Feeder.made(text).more(0), way.equals("poll") ? 5 : 9);
+                    // The least or the last one becomes the RIGHT one: by PAPERS, which have no part in it.
+                    DrawnBallots x = Feeder.made(text);
+                    int right = winner == 3 ? 0 : 3;
+                    for (int ballot = 0; ballot < 7; ballot++) {
+                        x.paper(ballot, 0, right);
+                    }
+                    E.due("the RIGHT one", x.race(0, 3), right);
+                    E.due("by PAPERS, " + text, x.need(0, 0, 0), way.equals("poll") ? 5 : 9);
+                    E.due("by PAPERS, a 2 more, " + text, x.need(0, 0, 1), way.equals("poll") ? 8 : 15);
+                    E.due("by PAPERS, more of " + text, x.more(0), way.equals("poll") ? 5 : 9);
+                }
+            }
+        });
         E.edge(27, "with so many MISTAKES of 1 and of 2 (0 to 99 each); NONE: none", () -> {
             DrawnBallots x = Feeder.made(EIGHT_TWO);
             E.due("none of either", () -> x.need(0, 0, 0), 9);
@@ -295,6 +325,14 @@ public final class EdgesOfReckoningTest {
             E.due("by POLL behind one for another", () -> poll.more(0), 7);
             poll.rule(2, 2);
             E.due("MOST has no part", () -> poll.more(0), 7);
+            // 3/4 and 1/2 of themselves: behind 2 the latter is little enough, the other one isn't.
+            DrawnBallots one = Feeder.made("race 3 poll;ballots 6 1;ballots 3 2;ballots 9 off;limit 500;");
+            one.draw(2);
+            one.paper(one.drawn(0), 0, 1);
+            one.paper(one.drawn(1), 0, 1);
+            E.due("little enough for one", () -> one.riskOf(0, 0), 250000000);
+            E.due("not for the other", () -> one.riskOf(0, 2), 562500000);
+            E.due("one more", () -> one.more(0), 1);
             DrawnBallots clean = Feeder.made("race 2 compare;ballots 85 0;ballots 84 1;ballots 1 blank;limit 1;factor 213;");
             E.due("5000", () -> clean.more(0), 5000);
             DrawnBallots above = Feeder.made("race 2 compare;ballots 91 0;ballots 90 1;ballots 1 off;limit 1;factor 199;");

@@ -141,8 +141,10 @@ public final class EdgesOfTextsTest {
         }
         E.due(word + " at first, new", new DrawnBallots().count(what), atFirst);
         DrawnBallots x = Feeder.made(RACE + word + " " + greatest + ";");
-        Feeder.election(x, RACE);
-        E.due(word + " at first, of another election", x.count(what), atFirst);
+        for (int k = 0; k < 3; k++) {
+            Feeder.election(x, RACE);
+            E.due(word + " at first, of another election", x.count(what), atFirst);
+        }
     }
 
     private static void rules() {
@@ -154,8 +156,10 @@ public final class EdgesOfTextsTest {
             drawsOf(Feeder.made(text), 0, 197);
             drawsOf(Feeder.made(text + "seed 0;"), 0, 197);
             DrawnBallots x = Feeder.made(text + "seed 5;");
-            Feeder.election(x, text);
-            drawsOf(x, 0, 197);
+            for (int k = 0; k < 3; k++) {
+                Feeder.election(x, text);
+                drawsOf(x, 0, 197);
+            }
         });
         E.edge(0, "(0 to 999999)", () -> {
             String text = RACE + "ballots 99 0;ballots 98 1;";
@@ -187,6 +191,11 @@ public final class EdgesOfTextsTest {
             wrong("race 2 poll@`;", 1);
             wrong("race 2 poll@{;", 1);
             wrong("@Race 2 poll;", 1);
+            wrong("@pace 2 poll;", 1);
+            wrong("@rac 2 poll;", 1);
+            wrong("@racf 2 poll;", 1);
+            wrong("race 2 @moll;", 1);
+            wrong("race 2 @polm;", 1);
             wrong("race 2 poll@L;", 1);
         });
         E.edge(0, "a NUMBER a row of figures (it counts as what it is, 007 as 7)", () -> {
@@ -438,6 +447,10 @@ public final class EdgesOfTextsTest {
                 E.due(word + " 3 of three RACES", Feeder.ask(three, "many " + word + " 3=0"), -1000000002);
             }
             answers("first record 1=0", 7);
+            answers("many record 0=0", 4);
+            answers("many paper 0=0", 3);
+            answers("many record 1=0", 3);
+            answers("many paper 1=0", 2);
             answers("first paper 0=1", 2);
             answers("first mistake 0=2", 2);
             answers("first mistake 1<0", 8);
@@ -559,6 +572,11 @@ public final class EdgesOfTextsTest {
             E.due("RISK", () -> x.risk(0), 1000000000);
             E.none("no RISK behind a draw", () -> x.riskAt(0, 1));
             E.due("no ACTS", x::undo, -1);
+            x.draw(1);
+            for (int k = 0; k < 3; k++) {
+                E.due("one BALLOT anew", Feeder.election(x, RACE + "ballots 1 1;"), 1);
+                E.due("nothing is drawn of it", x.count(5), 0);
+            }
             E.due("no BALLOTS", Feeder.election(x, RACE), 0);
             E.due("200 BALLOTS", Feeder.election(x, MOST_BUT_TWO + "ballots 2 1;"), 200);
         });
@@ -651,6 +669,10 @@ public final class EdgesOfTextsTest {
             Feeder.feed(x, "many 1=1" + " ".repeat(592));
             E.due("200 of 600", () -> x.ask(200), 10);
             E.due("the tape is empty behind 200 of 600", () -> x.count(11), 0);
+            for (int k = 0; k < 60; k++) {
+                E.due("first, asked again " + k, Feeder.ask(x, "first number=3 or number=" + k), Math.min(k, 3));
+                E.due("many, asked again " + k, Feeder.ask(x, "many number=3 or number=" + k), k == 3 || k > 9 ? 1 : 2);
+            }
             DrawnBallots y = Scene.made();
             E.due("the Scene's question", () -> y.ask(14), 2);
             DrawnBallots z = Scene.withoutTape();

@@ -6,8 +6,9 @@ import java.util.Random;
 /** Long runs of calls, drawn from given seeds, whose every answer is compared with that of Model. */
 public final class RunsTest {
     private static final Check CHECK = new Check();
-    private static final int RUNS = 1500;
-    private static final int CALLS = 160;
+    private static final int RUNS = 3000;
+    /** Behind its 512th call an object may answer what it likes; one turn makes fewer than 90. */
+    private static final int CALLS = 512 - 90;
 
     private interface Call {
         long of();
@@ -36,7 +37,7 @@ public final class RunsTest {
     }
 
     private void go() {
-        for (int i = 0; i < CALLS && CHECK.isClean(); i++) {
+        while (calls.size() < CALLS && CHECK.isClean()) {
             call();
             if (random.nextInt(8) == 0) {
                 look();
